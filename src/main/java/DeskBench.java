@@ -79,11 +79,7 @@ public final class DeskBench {
 
     public int advert(int port, int from, int origin, int number, int body)
             throws IllegalArgumentException, IllegalStateException {
-        requirePort(port);
-        requireSender(from);
-        requireRouter(origin);
-        requireNumber(number);
-        requireOn(port);
+        requireLegal(port, from, origin, number);
         int place = neighbours.friendPlace(port, from);
         if (place == NONE) {
             return NONE;
@@ -100,11 +96,7 @@ public final class DeskBench {
 
     public boolean thanks(int port, int from, int origin, int number)
             throws IllegalArgumentException, IllegalStateException {
-        requirePort(port);
-        requireSender(from);
-        requireRouter(origin);
-        requireNumber(number);
-        requireOn(port);
+        requireLegal(port, from, origin, number);
         int place = neighbours.friendPlace(port, from);
         if (place == NONE || number != adverts.numberOf(origin)) {
             return false;
@@ -225,6 +217,15 @@ public final class DeskBench {
         if (!isOn(port)) {
             throw new IllegalStateException("the port is off");
         }
+    }
+
+    /** What advert() and thanks() ask for, the illegal arguments before the illegal state. */
+    private void requireLegal(int port, int from, int origin, int number) {
+        requirePort(port);
+        requireSender(from);
+        requireRouter(origin);
+        requireNumber(number);
+        requireOn(port);
     }
 
     private boolean isOn(int port) {

@@ -11,6 +11,7 @@ public final class SendingTest {
         atMost64ThanksWait();
         thanksWaitThroughAll();
         advertsInOrder();
+        theAdvertOfRouter0();
         sentAgainAfter15Ticks();
         eachAdvertHasItsOwn15Ticks();
         aNewNumberIsSentAtOnce();
@@ -191,6 +192,20 @@ public final class SendingTest {
         Check.sendsAdvert("9: next origin", x, 1, 60, 40, 4, 44);
         Check.sendsAdvert("9: to the source its own alone", x, 2, 1, 5, 1, 55);
         Check.sendsNothing("9: all is sent", x);
+    }
+
+    private static void theAdvertOfRouter0() {
+        DeskBench x = Check.withPorts(0, 1);
+        x.own(7);
+        x.greeting(0, 2, true);
+        Check.same("15: it is due to a new friend", x.due(0, 2), 1);
+        Check.sendsAdvert("9: though nothing else is", x, 0, 2, 0, 1, 7);
+        x.advert(0, 2, 1, 1, 9);
+        x.greeting(0, 3, true);
+        Check.sendsThanks("9: thanks", x, 0, 2, 1, 1);
+        Check.sendsAdvert("9: it goes before that of router 1", x, 0, 3, 0, 1, 7);
+        Check.sendsAdvert("9: then that of router 1", x, 0, 3, 1, 1, 9);
+        Check.sendsNothing("9: no more", x);
     }
 
     private static void sentAgainAfter15Ticks() {
