@@ -26,8 +26,8 @@ public final class AdvertsTest {
     }
 
     /** Itself is 1; friends are 2 and 3 on port 0 and 2 on port 1; 4 is heard on port 1. */
-    private static DeskBench withFriends() {
-        DeskBench x = Check.withPorts(1, 2);
+    private static Bench withFriends() {
+        Bench x = Check.withPorts(1, 2);
         x.greeting(0, 2, true);
         x.greeting(0, 3, true);
         x.greeting(1, 2, true);
@@ -35,7 +35,7 @@ public final class AdvertsTest {
         return x;
     }
 
-    private static void dues(String what, DeskBench x, int due02, int due03, int due12) {
+    private static void dues(String what, Bench x, int due02, int due03, int due12) {
         Check.same(what + ": due(0, 2)", x.due(0, 2), due02);
         Check.same(what + ": due(0, 3)", x.due(0, 3), due03);
         Check.same(what + ": due(1, 2)", x.due(1, 2), due12);
@@ -45,7 +45,7 @@ public final class AdvertsTest {
     }
 
     private static void onlyFriendsCount() {
-        DeskBench x = withFriends();
+        Bench x = withFriends();
         Check.same("4: of one that is heard only", x.advert(1, 4, 9, 5, 50), DeskBench.NONE);
         Check.same("4: of one that is not heard there", x.advert(1, 3, 9, 5, 50), DeskBench.NONE);
         Check.same("13: nothing happened", x.known(9), DeskBench.NONE);
@@ -55,7 +55,7 @@ public final class AdvertsTest {
     }
 
     private static void newerAdvertsBecomeKnown() {
-        DeskBench x = withFriends();
+        Bench x = withFriends();
         Check.same("4: none was known", x.advert(0, 2, 9, 5, 50), 0);
         Check.same("13: number", x.known(9), 5);
         Check.same("14: body", x.body(9), 50);
@@ -77,7 +77,7 @@ public final class AdvertsTest {
     }
 
     private static void knownAdvertsAreDueToAllButTheSource() {
-        DeskBench x = withFriends();
+        Bench x = withFriends();
         x.advert(0, 2, 9, 5, 50);
         dues("15: from 2 on port 0", x, 0, 1, 1);
         x.advert(1, 2, 8, 5, 50);
@@ -91,7 +91,7 @@ public final class AdvertsTest {
     }
 
     private static void aFriendGetsAllThatIsKnown() {
-        DeskBench x = withFriends();
+        Bench x = withFriends();
         x.advert(0, 2, 9, 5, 50);
         x.advert(0, 2, 4, 5, 50);
         x.own(3);
@@ -108,7 +108,7 @@ public final class AdvertsTest {
     }
 
     private static void theSameNumberSettlesIt() {
-        DeskBench x = withFriends();
+        Bench x = withFriends();
         x.advert(0, 2, 9, 5, 50);
         Check.same("4: same", x.advert(1, 2, 9, 5, 50), 1);
         dues("15: settled for that friend there", x, 0, 1, 0);
@@ -121,7 +121,7 @@ public final class AdvertsTest {
     }
 
     private static void aGreaterNumberSettlesIt() {
-        DeskBench x = withFriends();
+        Bench x = withFriends();
         x.advert(0, 2, 9, 5, 50);
         Check.same("15: due before", x.due(0, 3), 1);
         Check.same("4: greater", x.advert(0, 3, 9, 7, 70), 0);
@@ -129,7 +129,7 @@ public final class AdvertsTest {
     }
 
     private static void aLesserNumberMakesItDue() {
-        DeskBench x = withFriends();
+        Bench x = withFriends();
         x.advert(0, 2, 9, 5, 50);
         dues("15: not to the source", x, 0, 1, 1);
         Check.same("4: lesser", x.advert(0, 2, 9, 4, 40), 2);
@@ -140,7 +140,7 @@ public final class AdvertsTest {
     }
 
     private static void aLesserNumberSendsAtOnce() {
-        DeskBench x = withFriends();
+        Bench x = withFriends();
         x.advert(0, 3, 9, 5, 50);
         Check.sendAll(x);
         x.run(3);
@@ -155,7 +155,7 @@ public final class AdvertsTest {
     }
 
     private static void ownComesBackGreater() {
-        DeskBench x = withFriends();
+        Bench x = withFriends();
         Check.same("4: any is greater than none", x.advert(0, 2, 1, 5, 55), 3);
         Check.same("13: it is not known", x.known(1), DeskBench.NONE);
         Check.same("14: it has no body", x.body(1), 0);
@@ -170,7 +170,7 @@ public final class AdvertsTest {
     }
 
     private static void ownComesBackNotGreater() {
-        DeskBench x = withFriends();
+        Bench x = withFriends();
         x.advert(0, 2, 1, 9, 99);
         Check.same("4: 9 came before, and it has none", x.advert(0, 3, 1, 9, 99), 1);
         Check.same("4: 9 came before, and it has none", x.advert(0, 3, 1, 4, 99), 1);
@@ -191,7 +191,7 @@ public final class AdvertsTest {
     }
 
     private static void ownComesBackWhenForgotten() {
-        DeskBench x = withFriends();
+        Bench x = withFriends();
         x.own(1);
         x.own(2);
         x.forget(1);
@@ -205,7 +205,7 @@ public final class AdvertsTest {
 
     /** Terms: due no more when that friend sends it with a greater number; it says so of its own one too. */
     private static void aGreaterOwnSettlesTheOldOne() {
-        DeskBench x = withFriends();
+        Bench x = withFriends();
         x.own(1);
         Check.same("4: greater than its own", x.advert(0, 2, 1, 7, 9), 3);
         dues("15: due no more to that friend", x, 0, 1, 1);
@@ -214,14 +214,14 @@ public final class AdvertsTest {
     }
 
     private static void whatNoFriendSendsIsNotCounted() {
-        DeskBench x = withFriends();
+        Bench x = withFriends();
         Check.same("4: its own from no friend", x.advert(1, 4, 1, 50, 9), DeskBench.NONE);
         Check.same("6: it did not come", x.own(1), 1);
         Check.same("4: so this is greater", x.advert(0, 2, 1, 50, 9), 3);
     }
 
     private static void thanksSettleTheirNumber() {
-        DeskBench x = withFriends();
+        Bench x = withFriends();
         x.advert(0, 2, 9, 5, 50);
         x.own(3);
         Check.same("5: a greater number", x.thanks(0, 3, 9, 6), false);
@@ -241,7 +241,7 @@ public final class AdvertsTest {
     }
 
     private static void thanksOfOthersDoNot() {
-        DeskBench x = withFriends();
+        Bench x = withFriends();
         x.own(3);
         Check.same("5: of one that is heard only", x.thanks(1, 4, 1, 1), false);
         Check.same("5: of one that is not heard", x.thanks(1, 3, 1, 1), false);
@@ -252,7 +252,7 @@ public final class AdvertsTest {
     }
 
     private static void ownGoesUp() {
-        DeskBench x = new DeskBench(1);
+        Bench x = new Bench(1);
         Check.same("6: first", x.own(-5), 1);
         Check.same("14: body", x.body(1), -5);
         Check.same("6: second", x.own(Integer.MIN_VALUE), 2);
@@ -264,7 +264,7 @@ public final class AdvertsTest {
     }
 
     private static void forgetTakesItAway() {
-        DeskBench x = withFriends();
+        Bench x = withFriends();
         x.advert(0, 2, 9, 5, 50);
         x.advert(0, 2, 8, 5, 0);
         x.own(1);
@@ -283,7 +283,7 @@ public final class AdvertsTest {
     }
 
     private static void forgetOfItself() {
-        DeskBench x = withFriends();
+        Bench x = withFriends();
         Check.same("7: no own one", x.forget(1), false);
         x.own(1);
         x.own(2);
@@ -297,7 +297,7 @@ public final class AdvertsTest {
     }
 
     private static void edgesOfNumbersAndBodies() {
-        DeskBench x = withFriends();
+        Bench x = withFriends();
         Check.same("4: the least number", x.advert(0, 2, 9, 1, Integer.MAX_VALUE), 0);
         Check.same("14: the greatest body", x.body(9), Integer.MAX_VALUE);
         Check.same("4: the greatest number", x.advert(0, 2, 9, GREATEST, Integer.MIN_VALUE), 0);

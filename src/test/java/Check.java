@@ -40,7 +40,7 @@ final class Check {
     }
 
     /** The exact class of what a call throws: a class below the document's one would be another thing. */
-    private static String thrown(Call call) {
+    static String thrown(Call call) {
         try {
             call.make();
         } catch (RuntimeException e) {
@@ -50,7 +50,7 @@ final class Check {
     }
 
     /** The six parts of the last message and whom it names, as one text. */
-    static String lastMessage(DeskBench x) {
+    static String lastMessage(Bench x) {
         StringBuilder text = new StringBuilder();
         for (int what = 0; what < 6; what++) {
             text.append(x.message(what)).append(' ');
@@ -59,32 +59,32 @@ final class Check {
     }
 
     /** Makes the next message, which is to be this one. */
-    static void sends(String what, DeskBench x, int kind, int port, int to, int origin, int number, int body) {
+    static void sends(String what, Bench x, int kind, int port, int to, int origin, int number, int body) {
         same(what + ": next()", x.next(), true);
         long named = kind == 1 ? x.named() : 0L;
         same(what, lastMessage(x), kind + " " + port + " " + to + " " + origin + " " + number + " " + body
                 + " names " + named);
     }
 
-    static void sendsGreeting(String what, DeskBench x, int port, long named) {
+    static void sendsGreeting(String what, Bench x, int port, long named) {
         sends(what, x, 1, port, -1, -1, 0, 0);
         same(what + ": named()", x.named(), named);
     }
 
-    static void sendsThanks(String what, DeskBench x, int port, int to, int origin, int number) {
+    static void sendsThanks(String what, Bench x, int port, int to, int origin, int number) {
         sends(what, x, 2, port, to, origin, number, 0);
     }
 
-    static void sendsAdvert(String what, DeskBench x, int port, int to, int origin, int number, int body) {
+    static void sendsAdvert(String what, Bench x, int port, int to, int origin, int number, int body) {
         sends(what, x, 3, port, to, origin, number, body);
     }
 
-    static void sendsNothing(String what, DeskBench x) {
+    static void sendsNothing(String what, Bench x) {
         same(what + ": next()", x.next(), false);
     }
 
     /** Makes all messages that are to be sent now: how many there were. */
-    static int sendAll(DeskBench x) {
+    static int sendAll(Bench x) {
         for (int sent = 0; sent < 2000; sent++) {
             if (!x.next()) {
                 return sent;
@@ -94,8 +94,8 @@ final class Check {
     }
 
     /** A new object with its first ports on. */
-    static DeskBench withPorts(int itself, int ports) {
-        DeskBench x = new DeskBench(itself);
+    static Bench withPorts(int itself, int ports) {
+        Bench x = new Bench(itself);
         for (int port = 0; port < ports; port++) {
             x.port(port, true);
         }

@@ -68,7 +68,7 @@ public final class FaceTest {
                 (com.sun.management.ThreadMXBean) ManagementFactory.getThreadMXBean();
         long least = Long.MAX_VALUE;
         for (int round = 0; round < 20; round++) {
-            DeskBench x = Check.withPorts(1, 8);
+            Bench x = Check.withPorts(1, 8);
             long before = threads.getCurrentThreadAllocatedBytes();
             useAll(x);
             least = Math.min(least, threads.getCurrentThreadAllocatedBytes() - before);
@@ -76,7 +76,7 @@ public final class FaceTest {
         Check.same("bytes that calls make", least, 0L);
     }
 
-    private static void useAll(DeskBench x) {
+    private static void useAll(Bench x) {
         for (int i = 0; i < 20; i++) {
             x.greeting(i % 8, 2 + i, true);
             x.advert(i % 8, 2 + i, 30 + i, 1 + i, i);

@@ -13,13 +13,12 @@ public final class HearingTest {
         atMost16AreHeard();
         aSeventeenthCountsForNothingButThe16GoOn();
         runTellsTheTime();
-        runEndsAt1000000();
         edgesOfRoutersAndPorts();
         Check.end("HearingTest");
     }
 
     private static void newObject() {
-        DeskBench x = new DeskBench(5);
+        Bench x = new Bench(5);
         Check.same("1: time", x.time(), 0);
         Check.same("1: heard", x.count(false), 0);
         Check.same("1: friends", x.count(true), 0);
@@ -29,24 +28,27 @@ public final class HearingTest {
         for (int router = 0; router < 64; router++) {
             Check.same("1: known", x.known(router), DeskBench.NONE);
             Check.same("1: body", x.body(router), 0);
-            for (int port = 0; port < 8; port++) {
-                Check.same("1: state", x.state(port, router), 0);
-                Check.same("1: due", x.due(port, router), 0);
-            }
-        }
-        for (int port = 0; port < 8; port++) {
-            int p = port;
-            Check.illegalState("1: all ports are off", () -> x.greeting(p, 1, true));
-            Check.same("1: off is no other thing", x.port(port, false), false);
         }
         Check.same("1: NONE", DeskBench.NONE, -1);
+        for (int port = 0; port < 8; port++) {
+            newObjectOnPort(new Bench(5), port);
+        }
+    }
+
+    private static void newObjectOnPort(Bench x, int port) {
+        for (int router = 0; router < 64; router++) {
+            Check.same("1: state", x.state(port, router), 0);
+            Check.same("1: due", x.due(port, router), 0);
+        }
+        Check.illegalState("1: all ports are off", () -> x.greeting(port, 1, true));
+        Check.same("1: off is no other thing", x.port(port, false), false);
     }
 
     private static void itselfIsARouterOr0() {
         int[] given = {0, 1, 63, 64, -1, 70, Integer.MAX_VALUE, Integer.MIN_VALUE};
         int[] itself = {0, 1, 63, 0, 0, 0, 0, 0};
         for (int i = 0; i < given.length; i++) {
-            DeskBench x = Check.withPorts(given[i], 1);
+            Bench x = Check.withPorts(given[i], 1);
             int me = itself[i];
             Check.illegalArgument("1: itself is " + me, () -> x.greeting(0, me, true));
             int other = me == 0 ? 63 : 0;
@@ -57,7 +59,7 @@ public final class HearingTest {
     }
 
     private static void portsGoOnAndOff() {
-        DeskBench x = new DeskBench(1);
+        Bench x = new Bench(1);
         for (int port = 0; port < 8; port++) {
             Check.same("2: off at first", x.port(port, false), false);
             Check.same("2: on", x.port(port, true), true);
@@ -75,7 +77,7 @@ public final class HearingTest {
     }
 
     private static void greetingsMakeHeardAndFriends() {
-        DeskBench x = Check.withPorts(1, 2);
+        Bench x = Check.withPorts(1, 2);
         Check.same("3: heard", x.greeting(0, 2, false), 1);
         Check.same("12: heard", x.state(0, 2), 1);
         Check.same("12: not on another port", x.state(1, 2), 0);
@@ -88,7 +90,7 @@ public final class HearingTest {
     }
 
     private static void friendshipFollowsTheLastGreeting() {
-        DeskBench x = Check.withPorts(1, 1);
+        Bench x = Check.withPorts(1, 1);
         x.own(9);
         Check.same("3: heard", x.greeting(0, 2, false), 1);
         Check.same("15: nothing is due to one that is no friend", x.due(0, 2), 0);
@@ -105,7 +107,7 @@ public final class HearingTest {
     }
 
     private static void heardFor80Ticks() {
-        DeskBench x = Check.withPorts(1, 1);
+        Bench x = Check.withPorts(1, 1);
         x.run(7);
         x.greeting(0, 2, false);
         x.run(79);
@@ -122,7 +124,7 @@ public final class HearingTest {
     }
 
     private static void friendsAreLostAfter80Ticks() {
-        DeskBench x = Check.withPorts(1, 1);
+        Bench x = Check.withPorts(1, 1);
         x.own(3);
         x.greeting(0, 2, true);
         x.run(40);
@@ -140,7 +142,7 @@ public final class HearingTest {
     }
 
     private static void aPortThatGoesOffIsHeardNoMore() {
-        DeskBench x = Check.withPorts(1, 2);
+        Bench x = Check.withPorts(1, 2);
         x.own(3);
         x.greeting(0, 2, true);
         x.greeting(0, 3, false);
@@ -157,7 +159,7 @@ public final class HearingTest {
     }
 
     private static void oneRouterOnSeveralPorts() {
-        DeskBench x = Check.withPorts(1, 8);
+        Bench x = Check.withPorts(1, 8);
         for (int port = 0; port < 8; port++) {
             Check.same("3: on each port", x.greeting(port, 9, port % 2 == 0), port % 2 == 0 ? 2 : 1);
             Check.same("16: counts so often", x.count(false), port + 1);
@@ -168,8 +170,8 @@ public final class HearingTest {
         Check.same("16: one friend less", x.count(true), 3);
     }
 
-    private static DeskBench withSixteen() {
-        DeskBench x = Check.withPorts(0, 8);
+    private static Bench withSixteen() {
+        Bench x = Check.withPorts(0, 8);
         for (int i = 0; i < 16; i++) {
             Check.same("3: one of 16", x.greeting(i % 8, 10 + i / 8, true), 2);
         }
@@ -177,7 +179,7 @@ public final class HearingTest {
     }
 
     private static void atMost16AreHeard() {
-        DeskBench x = withSixteen();
+        Bench x = withSixteen();
         Check.same("3: a 17th", x.greeting(0, 12, true), 0);
         Check.same("3: a 17th, not naming", x.greeting(0, 12, false), 0);
         Check.same("12: is not heard", x.state(0, 12), 0);
@@ -193,7 +195,7 @@ public final class HearingTest {
     }
 
     private static void aSeventeenthCountsForNothingButThe16GoOn() {
-        DeskBench x = withSixteen();
+        Bench x = withSixteen();
         x.run(79);
         x.greeting(3, 10, true);
         Check.same("3: all places are taken", x.greeting(3, 12, true), 0);
@@ -204,7 +206,7 @@ public final class HearingTest {
     }
 
     private static void runTellsTheTime() {
-        DeskBench x = new DeskBench(0);
+        Bench x = new Bench(0);
         Check.same("8: run(1)", x.run(1), 1);
         Check.same("17: time", x.time(), 1);
         Check.same("8: run(2000)", x.run(2000), 2001);
@@ -216,26 +218,8 @@ public final class HearingTest {
         Check.same("17: time stands", x.time(), 2001);
     }
 
-    private static void runEndsAt1000000() {
-        DeskBench x = Check.withPorts(1, 1);
-        for (int i = 0; i < 499; i++) {
-            x.run(2000);
-        }
-        Check.same("8: to 999999", x.run(1999), 999999);
-        Check.sendsGreeting("9: the greeting of 999980", x, 0, 0L);
-        Check.illegalState("8: to 1000001", () -> x.run(2));
-        Check.illegalState("8: to 1001999", () -> x.run(2000));
-        Check.illegalArgument("8: illegal argument comes first", () -> x.run(2001));
-        Check.same("17: time stands", x.time(), 999999);
-        Check.sendsNothing("8: no greeting from a run that throws", x);
-        Check.same("8: to 1000000", x.run(1), 1000000);
-        Check.sendsGreeting("9: the greeting of 1000000", x, 0, 0L);
-        Check.illegalState("8: no further", () -> x.run(1));
-        Check.same("17: time stands", x.time(), 1000000);
-    }
-
     private static void edgesOfRoutersAndPorts() {
-        DeskBench x = Check.withPorts(30, 8);
+        Bench x = Check.withPorts(30, 8);
         Check.same("3: the least of both", x.greeting(0, 0, true), 2);
         Check.same("3: the greatest of both", x.greeting(7, 63, true), 2);
         Check.same("12: the least of both", x.state(0, 0), 2);

@@ -8,7 +8,7 @@ public final class ModelTest {
     private final int ports;
     private final int routers;
     private final int longestRun;
-    private final DeskBench x;
+    private final Bench x;
     private final Model m;
     private long seed;
 
@@ -19,7 +19,7 @@ public final class ModelTest {
         this.routers = new int[] {2, 3, 5, 10, 30, 64}[pick(6)];
         this.longestRun = new int[] {3, 8, 20, 50, 90}[pick(5)];
         this.itself = pick(20) == 0 ? -3 : 64 - 1 - pick(routers);
-        this.x = new DeskBench(itself);
+        this.x = new Bench(itself);
         this.m = new Model(itself);
     }
 

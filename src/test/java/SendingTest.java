@@ -24,7 +24,7 @@ public final class SendingTest {
     }
 
     private static void greetingsAtMultiplesOf20() {
-        DeskBench x = Check.withPorts(1, 1);
+        Bench x = Check.withPorts(1, 1);
         Check.sendsNothing("9: none at time 0", x);
         x.run(19);
         Check.sendsNothing("9: none at 19", x);
@@ -45,7 +45,7 @@ public final class SendingTest {
     }
 
     private static void oneGreetingOnEachPort() {
-        DeskBench x = new DeskBench(1);
+        Bench x = new Bench(1);
         x.port(7, true);
         x.port(0, true);
         x.port(4, true);
@@ -59,7 +59,7 @@ public final class SendingTest {
     }
 
     private static void greetingsNameThoseHeardWhenMade() {
-        DeskBench x = Check.withPorts(1, 2);
+        Bench x = Check.withPorts(1, 2);
         x.greeting(0, 2, true);
         x.greeting(0, 63, false);
         x.greeting(1, 5, true);
@@ -73,7 +73,7 @@ public final class SendingTest {
     }
 
     private static void greetingsEndWithThePort() {
-        DeskBench x = Check.withPorts(1, 2);
+        Bench x = Check.withPorts(1, 2);
         x.run(20);
         x.port(0, false);
         x.port(0, true);
@@ -89,7 +89,7 @@ public final class SendingTest {
     }
 
     private static void aPortThatComesOnWaitsForTheNextRound() {
-        DeskBench x = new DeskBench(1);
+        Bench x = new Bench(1);
         x.run(20);
         x.port(3, true);
         Check.sendsNothing("9: the time is 20 already", x);
@@ -100,7 +100,7 @@ public final class SendingTest {
     }
 
     private static void kindsInOrder() {
-        DeskBench x = Check.withPorts(1, 2);
+        Bench x = Check.withPorts(1, 2);
         x.greeting(0, 2, true);
         x.own(7);
         x.greeting(1, 3, true);
@@ -117,7 +117,7 @@ public final class SendingTest {
     }
 
     private static void thanksInOrder() {
-        DeskBench x = Check.withPorts(1, 2);
+        Bench x = Check.withPorts(1, 2);
         x.greeting(0, 2, true);
         x.greeting(1, 3, true);
         x.advert(1, 3, 20, 9, 1);
@@ -134,29 +134,31 @@ public final class SendingTest {
     }
 
     private static void atMost64ThanksWait() {
-        DeskBench x = Check.withPorts(1, 1);
+        Bench x = Check.withPorts(1, 1);
         x.greeting(0, 2, true);
         for (int number = 1; number <= 70; number++) {
             Check.same("9: the 65th is taken all the same", x.advert(0, 2, 9, number, 0), 0);
         }
-        for (int number = 1; number <= 40; number++) {
-            Check.sendsThanks("9: the first 64", x, 0, 2, 9, number);
-        }
+        sendsThanksFor("9: the first 64", x, 1, 40);
         for (int number = 101; number <= 150; number++) {
             x.advert(0, 2, 9, number, 0);
         }
-        for (int number = 41; number <= 64; number++) {
-            Check.sendsThanks("9: the first 64", x, 0, 2, 9, number);
-        }
-        for (int number = 101; number <= 140; number++) {
-            Check.sendsThanks("9: as many more as there was room for", x, 0, 2, 9, number);
-        }
+        sendsThanksFor("9: the first 64", x, 41, 64);
+        sendsThanksFor("9: as many more as there was room for", x, 101, 140);
         Check.sendsNothing("9: more are lost", x);
         Check.same("13: but not the adverts", x.known(9), 150);
     }
 
+    private static void sendsThanksFor(String what, Bench x, int from, int to) {
+        for (int number = from; number <= to; number++) {
+            Check.same(what + ": next()", x.next(), true);
+            Check.same(what + ": a thanks", x.message(0), 2);
+            Check.same(what + ": the number", x.message(4), number);
+        }
+    }
+
     private static void thanksWaitThroughAll() {
-        DeskBench x = Check.withPorts(1, 1);
+        Bench x = Check.withPorts(1, 1);
         x.greeting(0, 2, true);
         x.greeting(0, 3, true);
         x.advert(0, 2, 9, 5, 50);
@@ -171,7 +173,7 @@ public final class SendingTest {
     }
 
     private static void advertsInOrder() {
-        DeskBench x = Check.withPorts(5, 3);
+        Bench x = Check.withPorts(5, 3);
         x.greeting(2, 1, true);
         x.greeting(1, 60, true);
         x.greeting(1, 7, true);
@@ -195,7 +197,7 @@ public final class SendingTest {
     }
 
     private static void theAdvertOfRouter0() {
-        DeskBench x = Check.withPorts(0, 1);
+        Bench x = Check.withPorts(0, 1);
         x.own(7);
         x.greeting(0, 2, true);
         Check.same("15: it is due to a new friend", x.due(0, 2), 1);
@@ -209,7 +211,7 @@ public final class SendingTest {
     }
 
     private static void sentAgainAfter15Ticks() {
-        DeskBench x = Check.withPorts(1, 1);
+        Bench x = Check.withPorts(1, 1);
         x.greeting(0, 2, true);
         x.own(7);
         x.run(3);
@@ -232,7 +234,7 @@ public final class SendingTest {
     }
 
     private static void eachAdvertHasItsOwn15Ticks() {
-        DeskBench x = Check.withPorts(1, 2);
+        Bench x = Check.withPorts(1, 2);
         x.greeting(0, 2, true);
         x.greeting(1, 2, true);
         x.own(7);
@@ -256,7 +258,7 @@ public final class SendingTest {
     }
 
     private static void aNewNumberIsSentAtOnce() {
-        DeskBench x = Check.withPorts(1, 2);
+        Bench x = Check.withPorts(1, 2);
         x.greeting(0, 2, true);
         x.greeting(1, 3, true);
         x.own(7);
@@ -282,7 +284,7 @@ public final class SendingTest {
     }
 
     private static void settledOnesAreNotSent() {
-        DeskBench x = Check.withPorts(1, 1);
+        Bench x = Check.withPorts(1, 1);
         x.greeting(0, 2, true);
         x.greeting(0, 3, true);
         x.own(7);
@@ -300,7 +302,7 @@ public final class SendingTest {
     }
 
     private static void lostFriendsGetNothing() {
-        DeskBench x = Check.withPorts(1, 2);
+        Bench x = Check.withPorts(1, 2);
         x.greeting(0, 2, true);
         x.greeting(1, 3, true);
         x.own(7);
@@ -320,7 +322,7 @@ public final class SendingTest {
     }
 
     private static void aPlaceUsedAgainKeepsNothing() {
-        DeskBench x = Check.withPorts(1, 1);
+        Bench x = Check.withPorts(1, 1);
         x.own(7);
         x.greeting(0, 2, true);
         Check.same("9: it is sent", Check.sendAll(x), 1);
@@ -338,7 +340,7 @@ public final class SendingTest {
     }
 
     private static void messageStaysTheLastOne() {
-        DeskBench x = Check.withPorts(1, 1);
+        Bench x = Check.withPorts(1, 1);
         Check.illegalState("10: none was made", () -> x.message(5));
         Check.illegalArgument("10: illegal argument comes first", () -> x.message(6));
         Check.sendsNothing("9: nothing", x);
@@ -358,7 +360,7 @@ public final class SendingTest {
     }
 
     private static void namedIsOfGreetingsAlone() {
-        DeskBench x = Check.withPorts(1, 1);
+        Bench x = Check.withPorts(1, 1);
         Check.same("11: none was made", x.named(), 0L);
         x.greeting(0, 2, true);
         x.run(20);
