@@ -32,6 +32,7 @@ public final class DueEdgesTest {
         ownAfterWhatCame();
         forgetWithoutOne();
         forgetOne();
+        forgetOneThatIsDueToAll();
         forgetAll();
         forgetThatOfItself();
         withoutOne();
@@ -502,6 +503,20 @@ public final class DueEdgesTest {
             Check.sendsAdvert("9: it is to be sent at once", x, 0, 2, origin, 5, 51);
             Check.sendsAdvert("9: it is to be sent at once", x, 1, 2, origin, 5, 51);
         }
+    }
+
+    /** "due to nobody": it was due to all 16 */
+    private static void forgetOneThatIsDueToAll() {
+        Bench x = Check.withPorts(ITSELF, 8);
+        for (int i = 0; i < 16; i++) {
+            x.greeting(i % 8, 2 + i / 8, true);
+        }
+        x.own(5);
+        Check.same("7: its own", x.forget(ITSELF), true);
+        for (int i = 0; i < 16; i++) {
+            Check.same("15: due to nobody", x.due(i % 8, 2 + i / 8), 0);
+        }
+        Check.sendsNothing("9: nothing is sent", x);
     }
 
     /** From all 64 known to none. */
