@@ -85,6 +85,7 @@ public final class DeskBench {
             return NONE;
         }
         thanksQueue.add(port, from, origin, number);
+        // The friend has it already, or a newer one: so it needs ours no more, be it our own advert too.
         if (number >= adverts.numberOf(origin)) {
             neighbours.settle(place, origin);
         }

@@ -7,11 +7,15 @@ import java.util.TreeSet;
 
 /** The public face is the document's and nothing else, and all memory is made at first. */
 public final class FaceTest {
+    private static final String ARGUMENT = " throws IllegalArgumentException";
+    private static final String STATE_TOO = ARGUMENT + ", IllegalStateException";
     private static final String[] METHODS = {
-        "boolean port(int, boolean)", "int greeting(int, int, boolean)", "int advert(int, int, int, int, int)",
-        "boolean thanks(int, int, int, int)", "int own(int)", "boolean forget(int)", "int run(int)",
-        "boolean next()", "int message(int)", "long named()", "int state(int, int)", "int known(int)",
-        "int body(int)", "int due(int, int)", "int count(boolean)", "int time()"};
+        "boolean port(int, boolean)" + ARGUMENT, "int greeting(int, int, boolean)" + STATE_TOO,
+        "int advert(int, int, int, int, int)" + STATE_TOO, "boolean thanks(int, int, int, int)" + STATE_TOO,
+        "int own(int)", "boolean forget(int)" + ARGUMENT, "int run(int)" + STATE_TOO, "boolean next()",
+        "int message(int)" + STATE_TOO, "long named()", "int state(int, int)" + ARGUMENT,
+        "int known(int)" + ARGUMENT, "int body(int)" + ARGUMENT, "int due(int, int)" + ARGUMENT,
+        "int count(boolean)", "int time()"};
 
     public static void main(String[] args) {
         classAndConstructor();
@@ -45,11 +49,17 @@ public final class FaceTest {
     }
 
     private static String signature(Method method) {
-        StringBuilder types = new StringBuilder();
-        for (Class<?> type : method.getParameterTypes()) {
-            types.append(types.length() == 0 ? "" : ", ").append(type.getName());
+        String thrown = names(method.getExceptionTypes());
+        return method.getReturnType().getName() + " " + method.getName()
+                + "(" + names(method.getParameterTypes()) + ")" + (thrown.isEmpty() ? "" : " throws " + thrown);
+    }
+
+    private static String names(Class<?>[] types) {
+        StringBuilder text = new StringBuilder();
+        for (Class<?> type : types) {
+            text.append(text.length() == 0 ? "" : ", ").append(type.getSimpleName());
         }
-        return method.getReturnType().getName() + " " + method.getName() + "(" + types + ")";
+        return text.toString();
     }
 
     private static void fields() {
